@@ -412,6 +412,15 @@ public final class CourtProgress {
             }
         }
 
+        boolean ranksDiffer() {
+            for (int h = 1; h < size; h++) {
+                if (ranks[h] != ranks[0]) {
+                    return true;
+                }
+            }
+            return false;
+        }
+
         int allHorses() {
             int all = 0;
             for (int h = 0; h < size; h++) {
@@ -1119,8 +1128,9 @@ public final class CourtProgress {
             }
             sortRooms(p);
             sortHouseholds();
+            boolean worthCounts = ranked && court.ranksDiffer();
             for (int spot = 0; spot < rooms; spot++) {
-                relate(p, spot, ranked, weighed);
+                relate(p, spot, worthCounts, weighed);
             }
         }
 
@@ -1149,7 +1159,7 @@ public final class CourtProgress {
             }
         }
 
-        private void relate(int p, int spot, boolean ranked, boolean weighed) {
+        private void relate(int p, int spot, boolean worthCounts, boolean weighed) {
             int room = p * MAX_ROOMS + roomAt[spot];
             sameHouse[spot] = 0;
             noLess[spot] = 0;
@@ -1158,11 +1168,11 @@ public final class CourtProgress {
             for (int s = 0; s < rooms; s++) {
                 int other = p * MAX_ROOMS + roomAt[s];
                 boolean oneHouse = land.houses[other] == land.houses[room];
-                boolean oneWorth = !ranked || land.worths[other] == land.worths[room];
+                boolean oneWorth = !worthCounts || land.worths[other] == land.worths[room];
                 boolean oneWalk = !weighed || walkTo[s] == walkTo[spot];
                 sameHouse[spot] |= bitIf(oneHouse, s);
-                noLess[spot] |= bitIf(!ranked || land.worths[other] >= land.worths[room], s);
-                noMore[spot] |= bitIf(!ranked || land.worths[other] <= land.worths[room], s);
+                noLess[spot] |= bitIf(!worthCounts || land.worths[other] >= land.worths[room], s);
+                noMore[spot] |= bitIf(!worthCounts || land.worths[other] <= land.worths[room], s);
                 twins[spot] |= bitIf(oneHouse && oneWorth && oneWalk, s);
             }
         }
@@ -1204,7 +1214,7 @@ public final class CourtProgress {
         /** The household to try next; NONE if no lodging below the limit can come of it. */
         private int choose(int depth, int todo, int sum) {
             int chosen = NONE;
-            int fewest = MAX_ROOMS + 1;
+            int hardest = -1;
             int anyones = 0;
             int leastAlone = sum;
             for (int i = 0; i < court.size; i++) {
@@ -1216,14 +1226,21 @@ public final class CourtProgress {
                     }
                     anyones |= set;
                     leastAlone += weight[h] * walkTo[lowestIn(set)];
-                    if (Integer.bitCount(set) < fewest) {
-                        fewest = Integer.bitCount(set);
+                    int hard = hardship(h, set, todo);
+                    if (hard > hardest) {
+                        hardest = hard;
                         chosen = h;
                     }
                 }
             }
             boolean hopeless = leastAlone >= limit || sum + leastTogether(todo, anyones) >= limit;
             return hopeless ? NONE : chosen;
+        }
+
+        /** More with fewer rooms open; of as few, more with more bars to those that have none yet. */
+        private int hardship(int h, int set, int todo) {
+            int closed = MAX_ROOMS - Integer.bitCount(set);
+            return closed * MAX_HOUSEHOLDS + Integer.bitCount(court.barredFrom[h] & todo);
         }
 
         /** The least sum if each could have any of these rooms: the most mouths the least walk. */
@@ -1309,6 +1326,8 @@ public final class CourtProgress {
         private static final int SPAN = LONGEST_ROUTE + 1;
         /** More hours than any route has: at most eight ways of at most sixteen. */
         private static final int NEVER = 255;
+        private static final int UNKNOWN = 254;
+        private static final int MARKS = 1 << 16;
 
         private final Places land;
         private final Calendar calendar;
@@ -1321,7 +1340,7 @@ public final class CourtProgress {
         private final int[] muds = new int[SPAN];
         /** The last day of a row that begins on day i at place p: at i * MAX_PLACES + p. */
         private final int[] rowEnds = new int[SPAN * MAX_PLACES];
-        /** Least hours, each with the mark of the call that found it, so that none need be wiped out. */
+        /** Least hours by leaving and by coming, with the mark of the call that found them: so none need be wiped out. */
         private int[] known = new int[0];
         private int mark;
         private final int[] stops = new int[SPAN];
@@ -1351,7 +1370,7 @@ public final class CourtProgress {
             start = place;
             measureRows();
             makeRoom();
-            mark++;
+            mark = (mark + 1) % MARKS;
             int hours = leastOnward(0, 0, start, 0);
             return hours >= NEVER ? NONE : hours;
         }
@@ -1398,14 +1417,26 @@ public final class CourtProgress {
             }
             int best = NEVER;
             for (int i = from; i <= rowEnd; i++) {
-                for (int q = 0; q < land.size; q++) {
-                    best = Math.min(best, leastBy(i, p, q, behind, best));
-                }
+                best = Math.min(best, leastLeaving(i, p, behind));
             }
             return best;
         }
 
-        /** Least hours if the court goes from p to q on day i; NEVER if that can't be below the bound. */
+        /** Least hours if the court leaves p on day i. */
+        private int leastLeaving(int i, int p, int behind) {
+            int slot = slotOf(i, p, behind);
+            int leaving = known[slot] >> 8 & 255;
+            if (leaving == UNKNOWN) {
+                leaving = NEVER;
+                for (int q = 0; q < land.size; q++) {
+                    leaving = Math.min(leaving, leastBy(i, p, q, behind, leaving));
+                }
+                known[slot] = known[slot] & ~(255 << 8) | leaving << 8;
+            }
+            return leaving;
+        }
+
+        /** Least hours if the court goes from p to q on day i; NEVER, or more, if that can't be below the bound. */
         private int leastBy(int i, int p, int q, int behind, int bound) {
             if (q == p || isBehind(q, behind)) {
                 return NEVER;
@@ -1419,14 +1450,22 @@ public final class CourtProgress {
 
         /** Least hours if the court comes to p on day i. */
         private int leastFrom(int i, int p, int behind) {
+            int slot = slotOf(i, p, behind);
+            int coming = known[slot] & 255;
+            if (coming == UNKNOWN) {
+                coming = leastOnward(i, i, p, behind);
+                known[slot] = known[slot] & ~255 | coming;
+            }
+            return coming;
+        }
+
+        /** Where it is known; what an earlier call left there is unknown now. */
+        private int slotOf(int i, int p, int behind) {
             int slot = (behind * land.size + p) * SPAN + i;
-            if (slot < 0 || slot >= known.length) {
-                return NEVER;
+            if (known[slot] >>> 16 != mark) {
+                known[slot] = mark << 16 | UNKNOWN << 8 | UNKNOWN;
             }
-            if (known[slot] >>> 8 != mark) {
-                known[slot] = mark << 8 | leastOnward(i, i, p, behind);
-            }
-            return known[slot] & 255;
+            return slot;
         }
 
         /** The first place is always behind, so it needs no bit. */

@@ -1,0 +1,17 @@
+/** The same throws in every run of a test. */
+final class Dice {
+    private long state;
+
+    Dice(long seed) {
+        state = seed * 2862933555777941757L + 3037000493L;
+    }
+
+    int below(int bound) {
+        state = state * 6364136223846793005L + 1442695040888963407L;
+        return (int) ((state >>> 33) % bound);
+    }
+
+    boolean once(int in) {
+        return below(in) == 0;
+    }
+}
