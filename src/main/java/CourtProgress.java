@@ -185,7 +185,7 @@ public final class CourtProgress {
     }
 
     public int where() {
-        return refusal == FAULTY ? scribe.faultAt : NONE;
+        return refusal == FAULTY ? scribe.faultPlace() : NONE;
     }
 
     public int force(int day) {
@@ -778,17 +778,14 @@ public final class CourtProgress {
             }
         }
 
-        /** Behind the last token, the last one again: END or NO_TOKEN. */
+        /** The i-th token of the latest text; END behind the last one. */
         int tokenAt(int i) {
-            return tokens[indexOf(i)];
+            return i >= 0 && i < tokenCount ? tokens[i] : END;
         }
 
+        /** The place of the i-th token of the latest text. */
         int placeAt(int i) {
-            return tokenPlaces[indexOf(i)];
-        }
-
-        private int indexOf(int i) {
-            return Math.max(0, Math.min(i, tokenCount - 1));
+            return i >= 0 && i < tokenCount ? tokenPlaces[i] : NONE;
         }
 
         /** Parts the first n bytes into tokens, up to the end or to the first byte that begins none. */
@@ -901,7 +898,6 @@ public final class CourtProgress {
         private final Tape tape;
         private final Statutes draft;
         int faultKind;
-        int faultAt;
         private int cursor;
         private int token;
 
@@ -913,7 +909,6 @@ public final class CourtProgress {
         /** Reads what was scanned into the statutes' draft; false with a fault. */
         boolean reads() {
             faultKind = 0;
-            faultAt = NONE;
             cursor = 0;
             token = tape.tokenAt(0);
             draft.beginDraft();
@@ -930,6 +925,10 @@ public final class CourtProgress {
                 advance();
             }
             return false;
+        }
+
+        int faultPlace() {
+            return tape.placeAt(cursor);
         }
 
         private boolean readRule(int rule) {
@@ -1040,9 +1039,9 @@ public final class CourtProgress {
             return fail(token == Tape.OTHER_WORD ? NO_NAME : FORM);
         }
 
+        /** The cursor stays at the token where it is. */
         private boolean fail(int kind) {
             faultKind = kind;
-            faultAt = tape.placeAt(cursor);
             return false;
         }
     }
@@ -1371,7 +1370,7 @@ public final class CourtProgress {
             measureRows();
             makeRoom();
             mark = (mark + 1) % MARKS;
-            int hours = leastOnward(0, 0, start, 0);
+            int hours = leastOnward(0, 0, start, 1 << start);
             return hours >= NEVER ? NONE : hours;
         }
 
@@ -1410,26 +1409,26 @@ public final class CourtProgress {
         }
 
         /** Least hours of a row that began on a day, if it is left on a later one or not at all. */
-        private int leastOnward(int began, int from, int p, int behind) {
+        private int leastOnward(int began, int from, int p, int seen) {
             int rowEnd = rowEnds[began * MAX_PLACES + p];
             if (rowEnd >= end) {
                 return 0;
             }
             int best = NEVER;
             for (int i = from; i <= rowEnd; i++) {
-                best = Math.min(best, leastLeaving(i, p, behind));
+                best = Math.min(best, leastLeaving(i, p, seen));
             }
             return best;
         }
 
         /** Least hours if the court leaves p on day i. */
-        private int leastLeaving(int i, int p, int behind) {
-            int slot = slotOf(i, p, behind);
+        private int leastLeaving(int i, int p, int seen) {
+            int slot = slotOf(i, p, seen);
             int leaving = known[slot] >> 8 & 255;
             if (leaving == UNKNOWN) {
                 leaving = NEVER;
                 for (int q = 0; q < land.size; q++) {
-                    leaving = Math.min(leaving, leastBy(i, p, q, behind, leaving));
+                    leaving = Math.min(leaving, leastBy(i, p, q, seen, leaving));
                 }
                 known[slot] = known[slot] & ~(255 << 8) | leaving << 8;
             }
@@ -1437,60 +1436,54 @@ public final class CourtProgress {
         }
 
         /** Least hours if the court goes from p to q on day i; NEVER, or more, if that can't be below the bound. */
-        private int leastBy(int i, int p, int q, int behind, int bound) {
-            if (q == p || isBehind(q, behind)) {
+        private int leastBy(int i, int p, int q, int seen, int bound) {
+            if ((seen >> q & 1) == 1) {
                 return NEVER;
             }
             int hours = land.hoursOn(p, q, muds[i]);
             if (hours == 0 || hours >= bound || rowEnds[(i + 1) * MAX_PLACES + q] <= i) {
                 return NEVER;
             }
-            return hours + leastFrom(i + 1, q, behind | bitOf(q));
+            return hours + leastFrom(i + 1, q, seen | 1 << q);
         }
 
         /** Least hours if the court comes to p on day i. */
-        private int leastFrom(int i, int p, int behind) {
-            int slot = slotOf(i, p, behind);
+        private int leastFrom(int i, int p, int seen) {
+            int slot = slotOf(i, p, seen);
             int coming = known[slot] & 255;
             if (coming == UNKNOWN) {
-                coming = leastOnward(i, i, p, behind);
+                coming = leastOnward(i, i, p, seen);
                 known[slot] = known[slot] & ~255 | coming;
             }
             return coming;
         }
 
         /** Where it is known; what an earlier call left there is unknown now. */
-        private int slotOf(int i, int p, int behind) {
-            int slot = (behind * land.size + p) * SPAN + i;
+        private int slotOf(int i, int p, int seen) {
+            // The first place is always seen, so its bit is left out.
+            int below = seen & (1 << start) - 1;
+            int others = below | seen >> start + 1 << start;
+            int slot = (others * land.size + p) * SPAN + i;
             if (known[slot] >>> 16 != mark) {
                 known[slot] = mark << 16 | UNKNOWN << 8 | UNKNOWN;
             }
             return slot;
         }
 
-        /** The first place is always behind, so it needs no bit. */
-        private boolean isBehind(int q, int behind) {
-            return q == start || (behind & bitOf(q)) != 0;
-        }
-
-        private int bitOf(int q) {
-            return 1 << (q < start ? q : q - 1);
-        }
-
         /** Keeps the route with the least hours just found: day by day the least place by which they are enough. */
         void trace(int hours) {
             int p = start;
-            int behind = 0;
+            int seen = 1 << start;
             int began = 0;
             int left = hours;
             firstTold = first;
             lastTold = first + end;
             stops[0] = start;
             for (int i = 0; i < end; i++) {
-                int q = leastNext(i, began, p, behind, left);
+                int q = leastNext(i, began, p, seen, left);
                 if (q != p) {
                     left -= land.hoursOn(p, q, muds[i]);
-                    behind |= bitOf(q);
+                    seen |= 1 << q;
                     began = i + 1;
                     p = q;
                 }
@@ -1498,9 +1491,9 @@ public final class CourtProgress {
             }
         }
 
-        private int leastNext(int i, int began, int p, int behind, int left) {
+        private int leastNext(int i, int began, int p, int seen, int left) {
             for (int q = 0; q < land.size; q++) {
-                int hours = q == p ? leastOnward(began, i + 1, p, behind) : leastBy(i, p, q, behind, NEVER);
+                int hours = q == p ? leastOnward(began, i + 1, p, seen) : leastBy(i, p, q, seen, NEVER);
                 if (hours == left) {
                     return q;
                 }
