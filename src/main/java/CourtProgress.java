@@ -816,11 +816,11 @@ public final class CourtProgress {
         private int tokenEnd(int from) {
             int i = from;
             if (isLetter(from)) {
-                while (isLetter(i)) {
+                while (i < length && isLetter(i)) {
                     i++;
                 }
             } else if (isDigit(from)) {
-                while (isDigit(i)) {
+                while (i < length && isDigit(i)) {
                     i++;
                 }
             } else {

@@ -11,6 +11,7 @@ public final class OrdinanceTest {
         sounds();
         forces();
         portions();
+        afterFaults();
         needs();
         c.end();
     }
@@ -151,6 +152,11 @@ public final class OrdinanceTest {
         fault("eats 2 * x", 2, 9);
         fault("eats 2*ranks", 2, 7);
         fault("eats 2*ran", 2, 7);
+        fault("eats xank", 2, 5);
+        fault("eats ranx", 2, 5);
+        fault("eats zz", 2, 5);
+        fault("eats a", 2, 5);
+        fault("when rzz=1 eats 1", 2, 5);
         fault("when x", 2, 5);
         fault("when feasts = 1 eats 1", 2, 5);
         fault("when rank = 1 and x = 2", 2, 18);
@@ -268,6 +274,7 @@ public final class OrdinanceTest {
         eatsDue("when feast = 0 feeds 9; feeds 8; eats 1", 12, 1, 8);
         eatsDue("when mud=3 and feast=1 and day=12 and horses=11 feeds 6", 12, 0, 6);
         eatsDue("when mud=3 and feast=1 and day=12 and horses=12 feeds 6", 12, 0, 0);
+        eatsDue("when rank=1 and rank=1 and rank=1 and rank=1 eats 1+1+1+1*day; eats 2+2+2+2*rank; feeds 3+3+3+3*mud", 13, 20, 18);
         String late = Texts.times("when rank = 1 eats 1", 11, ";") + "; eats 5";
         eatsDue(late, 0, 5, 0);
         CourtProgress x = new CourtProgress();
@@ -282,6 +289,24 @@ public final class OrdinanceTest {
         c.due("eats(-1, 5, false)", x.eats(-1, 5, false), -1);
         c.due("eats(0, -1, false)", x.eats(0, -1, false), -1);
         c.due("eats(0, 200, true)", x.eats(0, 200, true), -1);
+    }
+
+    /** Nothing of a text with a fault is left in the next one. */
+    private static void afterFaults() {
+        CourtProgress x = new CourtProgress();
+        x.household(7, 30, 11);
+        Texts.ordain(x, 0, "when rank=1 and day=9 eats 5+6+7+8; eats 4; feeds 3; feeds");
+        c.due("where()", x.where(), 58);
+        c.due("force(0)", x.force(0), -2);
+        c.due("eats(0, 0, false)", x.eats(0, 0, false), 0);
+        Texts.ordain(x, 0, "eats 1");
+        c.due("eats(0, 0, false)", x.eats(0, 0, false), 1);
+        c.due("eats(0, 0, true)", x.eats(0, 0, true), 0);
+        Texts.ordain(x, 0, "eats 5; eats 6; feeds 7 feeds");
+        Texts.ordain(x, 0, "when rank=1 eats 2");
+        c.due("eats(0, 0, false)", x.eats(0, 0, false), 0);
+        c.due("eats(0, 0, true)", x.eats(0, 0, true), 0);
+        c.due("count(2)", x.count(2), 2);
     }
 
     private static void needs() {
