@@ -23,7 +23,7 @@ public final class AnyCallsTest {
         Dice like = new Dice(seed);
         for (int call = 0; call < 512 && !c.isWrong(); call++) {
             boolean looks = call % 16 == 0;
-            int[] before = looks ? snapshot(one) : null;
+            int[] before = looks ? Snapshot.of(one) : null;
             boolean refusable = looks && call % 32 == 0;
             long got = refusable ? wrongCall(one, dice) : anyCall(one, dice);
             long again = refusable ? wrongCall(other, like) : anyCall(other, like);
@@ -32,10 +32,10 @@ public final class AnyCallsTest {
             c.due("trouble() is 0 to 6", one.trouble() >= 0 && one.trouble() <= 6, true);
             if (refusable) {
                 c.due("a refused call", one.trouble() != 0, true);
-                c.due("what a refused call changes", Arrays.equals(before, snapshot(one)), true);
+                c.due("what a refused call changes", Arrays.equals(before, Snapshot.of(one)), true);
             }
         }
-        c.due("the end of run " + seed, Arrays.equals(snapshot(one), snapshot(other)), true);
+        c.due("the end of run " + seed, Arrays.equals(Snapshot.of(one), Snapshot.of(other)), true);
     }
 
     private static int number(Dice dice, int least, int most) {
@@ -98,36 +98,5 @@ public final class AnyCallsTest {
             case 14: return x.hear(10);
             default: return x.ordinance(-1, 0);
         }
-    }
-
-    private static int[] snapshot(CourtProgress x) {
-        int[] all = new int[3000];
-        int n = 0;
-        for (int what = 0; what < 8; what++) {
-            all[n++] = x.count(what);
-        }
-        for (int p = 0; p < 9; p++) {
-            for (int what = 0; what < 5; what++) {
-                all[n++] = x.about(p, what);
-            }
-        }
-        for (int day = 0; day < 200; day++) {
-            all[n++] = x.need(day);
-            all[n++] = x.force(day);
-            all[n++] = x.was(day);
-            all[n++] = x.lacked(day);
-            all[n++] = x.at(day);
-        }
-        for (int h = 0; h < 8; h++) {
-            all[n++] = x.lodged(h);
-            all[n++] = x.eats(h, 7, false);
-            all[n++] = x.eats(h, 7, true);
-        }
-        for (int p = 0; p < 60; p++) {
-            all[n++] = x.heard(p);
-            all[n++] = x.next(p);
-        }
-        all[n] = x.fault();
-        return all;
     }
 }

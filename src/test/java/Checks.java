@@ -1,3 +1,5 @@
+import java.util.Arrays;
+
 /** Counts the answers that are not as due; every test ends with end(). */
 final class Checks {
     private final String test;
@@ -28,6 +30,11 @@ final class Checks {
 
     void due(CourtProgress x, String call, boolean got, int trouble) {
         due(x, call, got ? 1 : 0, trouble == 0 ? 1 : 0, trouble);
+    }
+
+    /** Nothing that can be asked for was changed by a call. */
+    void same(String call, int[] before, int[] after) {
+        due("the first change by " + call, Arrays.mismatch(before, after), -1);
     }
 
     boolean isWrong() {
