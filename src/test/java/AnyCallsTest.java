@@ -1,8 +1,6 @@
-import java.util.Arrays;
-
 /**
- * Runs of 512 calls with any arguments: none throws, two objects with the same calls answer alike,
- * and a refused call changes nothing that can be asked for.
+ * Any calls with any arguments: none throws, two objects with the same calls answer alike, and a
+ * refused call changes nothing. No object has more than 512 calls.
  */
 public final class AnyCallsTest {
     private static final Checks c = new Checks("AnyCallsTest");
@@ -10,32 +8,45 @@ public final class AnyCallsTest {
     private static final String[] PIECES = {"eats 1", "eats rank", "feeds 2*horses", ";", "+", "*", "when mud > 1 ", "and ", "day", "x", " ", "7", "<", "when day < 9 eats 2"};
 
     public static void main(String[] args) {
-        for (int run = 0; run < 400 && !c.isWrong(); run++) {
-            run(run);
+        for (int run = 0; run < 600 && !c.isWrong(); run++) {
+            alike(run);
+        }
+        for (int run = 0; run < 1600 && !c.isWrong(); run++) {
+            refused(run);
         }
         c.end();
     }
 
-    private static void run(int seed) {
+    /** Each round is two calls at most. */
+    private static void alike(int seed) {
         CourtProgress one = new CourtProgress();
         CourtProgress other = new CourtProgress();
         Dice dice = new Dice(seed);
         Dice like = new Dice(seed);
-        for (int call = 0; call < 512 && !c.isWrong(); call++) {
-            boolean looks = call % 16 == 0;
-            int[] before = looks ? Snapshot.of(one) : null;
-            boolean refusable = looks && call % 32 == 0;
-            long got = refusable ? wrongCall(one, dice) : anyCall(one, dice);
-            long again = refusable ? wrongCall(other, like) : anyCall(other, like);
-            c.due("call " + call + " of run " + seed + " again", again, got);
-            c.due("trouble()", one.trouble(), other.trouble());
-            c.due("trouble() is 0 to 6", one.trouble() >= 0 && one.trouble() <= 6, true);
-            if (refusable) {
-                c.due("a refused call", one.trouble() != 0, true);
-                c.due("what a refused call changes", Arrays.equals(before, Snapshot.of(one)), true);
+        for (int round = 0; round < 230 && !c.isWrong(); round++) {
+            c.due("round " + round + " of run " + seed + " again", anyCall(other, like), anyCall(one, dice));
+            if (round % 8 == 0) {
+                int trouble = one.trouble();
+                c.due("trouble() again", other.trouble(), trouble);
+                c.due("trouble() is 0 to 6", trouble >= 0 && trouble <= 6, true);
             }
         }
-        c.due("the end of run " + seed, Arrays.equals(Snapshot.of(one), Snapshot.of(other)), true);
+    }
+
+    private static void refused(int seed) {
+        c.changesNothing("a refused call of run " + seed, () -> afterSome(new Dice(seed)), x -> {
+            wrongCall(x, new Dice(-seed));
+            c.due("it is refused", x.trouble() != 0, true);
+        });
+    }
+
+    private static CourtProgress afterSome(Dice dice) {
+        CourtProgress x = new CourtProgress();
+        int rounds = dice.below(70);
+        for (int round = 0; round < rounds; round++) {
+            anyCall(x, dice);
+        }
+        return x;
     }
 
     private static int number(Dice dice, int least, int most) {

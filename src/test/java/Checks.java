@@ -1,4 +1,6 @@
 import java.util.Arrays;
+import java.util.function.Consumer;
+import java.util.function.Supplier;
 
 /** Counts the answers that are not as due; every test ends with end(). */
 final class Checks {
@@ -32,9 +34,11 @@ final class Checks {
         due(x, call, got ? 1 : 0, trouble == 0 ? 1 : 0, trouble);
     }
 
-    /** Nothing that can be asked for was changed by a call. */
-    void same(String call, int[] before, int[] after) {
-        due("the first change by " + call, Arrays.mismatch(before, after), -1);
+    /** Two objects with the same calls answer alike, though one had one call more. */
+    void changesNothing(String what, Supplier<CourtProgress> made, Consumer<CourtProgress> call) {
+        CourtProgress x = made.get();
+        call.accept(x);
+        due("the first change by " + what, Arrays.mismatch(Snapshot.of(made.get()), Snapshot.of(x)), -1);
     }
 
     boolean isWrong() {

@@ -142,16 +142,20 @@ public final class CourtBoundsTest {
 
     // "HOUSEHOLDS 8"; "A HOUSEHOLD more: its number. NONE: 2; 3."
     private static void eightHouseholds() {
+        CourtProgress x = fullCourt();
+        c.due(x, "P2 a ninth HOUSEHOLD", x.household(9, 99, 99), -1, 3);
+        c.due("P15 eats(7)", x.eats(7, 0, false), 17);
+        c.due("P15 eats(8)", x.eats(8, 0, false), -1);
+        c.changesNothing("P2 a ninth HOUSEHOLD", CourtBoundsTest::fullCourt, y -> y.household(9, 99, 99));
+    }
+
+    private static CourtProgress fullCourt() {
         CourtProgress x = new CourtProgress();
         for (int h = 0; h < 8; h++) {
             c.due(x, "P2 household " + h, x.household(1 + h, 10 + h, h), h, 0);
         }
         Texts.ordain(x, 0, "eats mouths");
-        int[] before = Snapshot.of(x);
-        c.due(x, "P2 a ninth HOUSEHOLD", x.household(9, 99, 99), -1, 3);
-        c.same("P2 a ninth HOUSEHOLD", before, Snapshot.of(x));
-        c.due("P15 eats(7)", x.eats(7, 0, false), 17);
-        c.due("P15 eats(8)", x.eats(8, 0, false), -1);
+        return x;
     }
 
     private static void householdsWrongNumberFirst() {
@@ -277,19 +281,23 @@ public final class CourtBoundsTest {
 
     // "PLACES 9"; "NONE: 2; 3."
     private static void ninePlaces() {
-        CourtProgress x = new CourtProgress();
-        for (int p = 0; p < 9; p++) {
-            c.due(x, "P4 place " + p, x.place(100 + p, 200 + p, p), p, 0);
-        }
-        int[] before = Snapshot.of(x);
+        CourtProgress x = fullLand();
         c.due(x, "P4 a tenth PLACE", x.place(1, 1, 1), -1, 3);
         c.due(x, "P4 a tenth with a wrong STORE", x.place(-1, 1, 1), -1, 2);
         c.due(x, "P4 a tenth with wrong OWES", x.place(1, 1000001, 1), -1, 2);
         c.due(x, "P4 a tenth with wrong STALLS", x.place(1, 1, 1000), -1, 2);
-        c.same("P4 a tenth PLACE", before, Snapshot.of(x));
         c.due("P24 about(8, 0)", x.about(8, 0), 108);
         c.due("P24 about(8, 1)", x.about(8, 1), 208);
         c.due("P24 about(9, 0)", x.about(9, 0), -1);
+        c.changesNothing("P4 a tenth PLACE", CourtBoundsTest::fullLand, y -> y.place(1, 1, 1));
+    }
+
+    private static CourtProgress fullLand() {
+        CourtProgress x = new CourtProgress();
+        for (int p = 0; p < 9; p++) {
+            c.due(x, "P4 place " + p, x.place(100 + p, 200 + p, p), p, 0);
+        }
+        return x;
     }
 
     // "the first one is where the court is"
@@ -473,19 +481,24 @@ public final class CourtBoundsTest {
 
     // "DAYS 0 .. 199"; "false (2)"
     private static void mudDays() {
-        CourtProgress x = muddy();
-        c.due(x, "P7 the first DAY", x.mud(0, 0, 2), 0);
-        c.due(x, "P7 the last DAY", x.mud(199, 199, 3), 0);
-        int[] before = Snapshot.of(x);
+        CourtProgress x = muddyEnds();
         int[][] wrong = {{-1, 0}, {-1, -1}, {MIN, 5}, {0, 200}, {199, 200}, {200, 200}, {5, MAX}, {1, 0}, {199, 0}, {6, 5}, {200, -1}, {MIN, MAX}, {MAX, MIN}};
         for (int[] w : wrong) {
-            c.due(x, "P7 mud(" + w[0] + ", " + w[1] + ", 4)", x.mud(w[0], w[1], 4), 2);
-            c.same("P7 mud(" + w[0] + ", " + w[1] + ", 4)", before, Snapshot.of(x));
+            String call = "P7 mud(" + w[0] + ", " + w[1] + ", 4)";
+            c.due(x, call, x.mud(w[0], w[1], 4), 2);
+            c.changesNothing(call, CourtBoundsTest::muddyEnds, y -> y.mud(w[0], w[1], 4));
         }
         c.due(x, "P7 all DAYS", x.mud(0, 199, 4), 0);
         for (int day = 0; day < 200; day++) {
             c.due("P7 MUD of day " + day, x.need(day), 4);
         }
+    }
+
+    private static CourtProgress muddyEnds() {
+        CourtProgress x = muddy();
+        c.due(x, "P7 the first DAY", x.mud(0, 0, 2), 0);
+        c.due(x, "P7 the last DAY", x.mud(199, 199, 3), 0);
+        return x;
     }
 
     private static void mudDepths() {
@@ -565,19 +578,23 @@ public final class CourtBoundsTest {
 
     // "FEASTS 8"; "3"
     private static void eightFeasts() {
+        CourtProgress x = fullOfFeasts();
+        c.due(x, "P8 a ninth FEAST", x.feast(5, 1), 3);
+        c.due(x, "P8 a ninth FEAST on day 199", x.feast(199, 0), 3);
+        // Those of past days are FEASTS still.
+        x.feast(0, 0);
+        x.step(0);
+        c.due(x, "P8 a ninth FEAST when one is past", x.feast(5, 1), 3);
+        c.changesNothing("P8 a ninth FEAST", CourtBoundsTest::fullOfFeasts, y -> y.feast(5, 1));
+    }
+
+    private static CourtProgress fullOfFeasts() {
         CourtProgress x = withPlaces(2);
         for (int f = 0; f < 8; f++) {
             c.due(x, "P8 feast " + f, x.feast(10 * f, f % 2), 0);
             c.due("P31 FEASTS", x.count(3), f + 1);
         }
-        int[] before = Snapshot.of(x);
-        c.due(x, "P8 a ninth FEAST", x.feast(5, 1), 3);
-        c.due(x, "P8 a ninth FEAST on day 199", x.feast(199, 0), 3);
-        c.same("P8 a ninth FEAST", before, Snapshot.of(x));
-        // Those of past days are FEASTS still.
-        x.feast(0, 0);
-        x.step(0);
-        c.due(x, "P8 a ninth FEAST when one is past", x.feast(5, 1), 3);
+        return x;
     }
 
     // "(in place of that DAY's"; "one at most of a DAY"

@@ -448,19 +448,20 @@ public final class LodgingBoundsTest {
     }
 
     private static void refusedChangesNothing() {
+        c.changesNothing("P17 a lodge refused by 6", LodgingBoundsTest::lodgedAtOne, x -> c.due(x, "P17 lodge(0)", x.lodge(0), -1, 6));
+        c.changesNothing("P17 a lodge refused by 1", LodgingBoundsTest::lodgedAtOne, x -> c.due(x, "P17 lodge(2)", x.lodge(2), -1, 1));
+        c.changesNothing("P19 why(0)", LodgingBoundsTest::lodgedAtOne, x -> c.due(x, "P19 why(0)", x.why(0), 3, 0));
+        c.changesNothing("P19 why(1)", LodgingBoundsTest::lodgedAtOne, x -> c.due(x, "P19 why(1)", x.why(1), 0, 0));
+        c.changesNothing("P19 a why refused by 1", LodgingBoundsTest::lodgedAtOne, x -> c.due(x, "P19 why(2)", x.why(2), -1, 1));
+    }
+
+    private static CourtProgress lodgedAtOne() {
         CourtProgress x = alike(2, 2);
         x.bar(0, 1, true);
         x.place(0, 0, 0);
         x.room(1, 5, 0, 1);
         x.room(1, 5, 1, 1);
         x.lodge(1);
-        int[] before = Snapshot.of(x);
-        c.due(x, "P17 lodge(0)", x.lodge(0), -1, 6);
-        c.same("P17 a lodge refused by 6", before, Snapshot.of(x));
-        c.due(x, "P17 lodge(2)", x.lodge(2), -1, 1);
-        c.same("P17 a lodge refused by 1", before, Snapshot.of(x));
-        c.due(x, "P19 why(0)", x.why(0), 3, 0);
-        c.due(x, "P19 why(2)", x.why(2), -1, 1);
-        c.same("P19 why", before, Snapshot.of(x));
+        return x;
     }
 }

@@ -66,37 +66,44 @@ public final class PleaTest {
     /** Against the document's words, told plainly: worth and one more for each day, of like ones the elder. */
     private static void manyRuns() {
         Dice dice = new Dice(5);
-        for (int run = 0; run < 60; run++) {
+        for (int run = 0; run < 300 && !c.isWrong(); run++) {
             CourtProgress x = new CourtProgress();
             x.place(0, 0, 0);
             List<int[]> waiting = new ArrayList<>();
             int pleas = 0;
-            for (int call = 0; call < 200 && !c.isWrong(); call++) {
+            int today = 0;
+            for (int call = 0; call < 100; call++) {
                 int kind = dice.below(4);
                 if (kind == 0) {
                     x.step(0);
+                    today++;
                 } else if (kind == 1 && pleas < 60) {
                     int worth = dice.below(run % 2 == 0 ? 8 : 100);
                     c.due("plea", x.plea(worth), pleas);
-                    waiting.add(new int[] {pleas++, worth, x.count(5)});
+                    waiting.add(new int[] {pleas++, worth, today});
                 } else if (kind == 2) {
                     int i = dice.below(waiting.size() + 1);
-                    c.due("next", x.next(i), i < waiting.size() ? inTurn(waiting, x.count(5), i) : -1);
+                    c.due("next", x.next(i), i < waiting.size() ? inTurn(waiting, today, i) : -1);
                 } else {
-                    int many = 1 + dice.below(2);
-                    int now = x.count(5);
-                    List<Integer> first = new ArrayList<>();
-                    for (int i = 0; i < Math.min(many, waiting.size()); i++) {
-                        first.add(inTurn(waiting, now, i));
-                    }
-                    c.due("hear", x.hear(many), first.size());
-                    for (int[] p : waiting) {
-                        c.due("heard", x.heard(p[0]), first.contains(p[0]) ? now : -2);
-                    }
-                    waiting.removeIf(p -> x.heard(p[0]) != -2);
+                    hearSome(x, waiting, today, 1 + dice.below(2));
                 }
                 c.due("count(4)", x.count(4), waiting.size());
             }
+        }
+    }
+
+    private static void hearSome(CourtProgress x, List<int[]> waiting, int today, int many) {
+        List<Integer> first = new ArrayList<>();
+        for (int i = 0; i < Math.min(many, waiting.size()); i++) {
+            first.add(inTurn(waiting, today, i));
+        }
+        c.due("hear", x.hear(many), first.size());
+        for (int p : first) {
+            c.due("heard", x.heard(p), today);
+        }
+        waiting.removeIf(p -> first.contains(p[0]));
+        if (!waiting.isEmpty()) {
+            c.due("heard", x.heard(waiting.get(0)[0]), -2);
         }
     }
 

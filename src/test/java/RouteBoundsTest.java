@@ -502,19 +502,18 @@ public final class RouteBoundsTest {
     }
 
     private static void refusedChangesNothing() {
+        c.changesNothing("P20 a route refused by 2", RouteBoundsTest::routed, x -> c.due(x, "P20 route(21)", x.route(21), -1, 2));
+        c.changesNothing("P20 a route refused by 6", RouteBoundsTest::routed, x -> routeDue(x, "too long", 20, -1));
+        c.changesNothing("P20 the same route again", RouteBoundsTest::routed, x -> routeDue(x, "again", 3, 3));
+        c.changesNothing("P22 lasts", RouteBoundsTest::routed, x -> c.due(x, "P22 lasts()", x.lasts(), 10, 0));
+    }
+
+    private static CourtProgress routed() {
         CourtProgress x = eatingTen(100, 100);
         x.way(0, 1, 3);
         x.feast(2, 1);
         x.route(3);
-        int[] before = Snapshot.of(x);
-        c.due(x, "P20 route(21)", x.route(21), -1, 2);
-        c.same("P20 a route refused by 2", before, Snapshot.of(x));
-        routeDue(x, "too long", 20, -1);
-        c.same("P20 a route refused by 6", before, Snapshot.of(x));
-        routeDue(x, "again", 3, 3);
-        c.same("P20 a route eats nothing and goes nowhere", before, Snapshot.of(x));
-        x.lasts();
-        c.same("P22 lasts", before, Snapshot.of(x));
+        return x;
     }
 
     // "NONE (6) without a PLACE"

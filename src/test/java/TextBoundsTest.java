@@ -206,16 +206,20 @@ public final class TextBoundsTest {
 
     // "ORDINANCES 10"; "3"
     private static void tenOrdinances() {
+        CourtProgress x = fullOfOrdinances();
+        c.due(x, "P11 an eleventh ORDINANCE", Texts.ordain(x, 5, "eats 50; feeds 60"), -1, 3);
+        for (int o = 0; o < 10; o++) {
+            c.due("P15 eats by ordinance " + o, x.eats(0, 10 * o + 9, false), o + 1);
+        }
+        c.changesNothing("P11 an eleventh ORDINANCE", TextBoundsTest::fullOfOrdinances, y -> Texts.ordain(y, 5, "eats 50; feeds 60"));
+    }
+
+    private static CourtProgress fullOfOrdinances() {
         CourtProgress x = withHousehold();
         for (int o = 0; o < 10; o++) {
             c.due(x, "P11 ordinance " + o, Texts.ordain(x, 10 * o, "eats " + (o + 1)), o, 0);
         }
-        int[] before = Snapshot.of(x);
-        c.due(x, "P11 an eleventh ORDINANCE", Texts.ordain(x, 5, "eats 50; feeds 60"), -1, 3);
-        c.same("P11 an eleventh ORDINANCE", before, Snapshot.of(x));
-        for (int o = 0; o < 10; o++) {
-            c.due("P15 eats by ordinance " + o, x.eats(0, 10 * o + 9, false), o + 1);
-        }
+        return x;
     }
 
     // "NONE: 2 (THE TAPE stays); 4; 3."
