@@ -20,6 +20,7 @@ public final class LodgingBoundsTest {
         ranksMoreWorth();
         ranksAlike();
         ranksOfOneRank();
+        ranksOverAllRooms();
         reasonsInOrder();
         barsAlone();
         sums();
@@ -250,6 +251,25 @@ public final class LodgingBoundsTest {
         // The nearest room for the one below would be of more worth than one of rank 5 has, unless both have more.
         c.due("P17 and a near room", x.lodge(0), 1);
         lodgedDue(x, "and a near room", 1, 3, 0);
+    }
+
+    /** The nearest of ten rooms, for the lowest one, would leave too few for the seven above it. */
+    private static void ranksOverAllRooms() {
+        for (int worthy = 0; worthy <= 10; worthy++) {
+            CourtProgress x = new CourtProgress();
+            x.place(0, 0, 0);
+            for (int r = 0; r < 10; r++) {
+                x.room(0, r < worthy ? 9 : 1, 0, r);
+            }
+            x.household(1, 99, 0);
+            for (int h = 1; h < 8; h++) {
+                x.household(9, 1, 0);
+            }
+            // Household 0 has room 0, if the others find seven as good; else the nearest of worth 1.
+            int sum = worthy == 0 || worthy >= 8 ? 28 : 99 * worthy + 28 - worthy;
+            c.due(x, "P17 rooms of worth 9: " + worthy, x.lodge(0), sum, 0);
+            c.due(x, "P19 rooms of worth 9: " + worthy, x.why(0), 0, 0);
+        }
     }
 
     // "WHY there is none: 1 .. 2 .. 3 .. 4": the first of them that holds

@@ -171,6 +171,9 @@ public final class TextBoundsTest {
         Texts.feed(x, "eats 1");
         c.due(x, "P11 none of 20 bytes", x.ordinance(0, 0), -1, 4);
         c.due("P13 where()", x.where(), 0);
+        Texts.feed(x, " eats 1");
+        c.due(x, "P11 none of 20 bytes, the first a blank", x.ordinance(0, 0), -1, 4);
+        c.due("P13 where()", x.where(), 0);
         c.due("P31 bytes", x.count(7), 0);
     }
 
