@@ -691,12 +691,17 @@ public final class CourtProgress {
         }
 
         private void setHousehold(int h) {
-            values[RANK] = court.ranks[h];
-            values[MOUTHS] = court.mouths[h];
-            values[HORSES] = court.horses[h];
+            if (court.has(h)) {
+                values[RANK] = court.ranks[h];
+                values[MOUTHS] = court.mouths[h];
+                values[HORSES] = court.horses[h];
+            }
         }
 
         private int firstSum(int o, int kind) {
+            if (o < 0 || o >= size) {
+                return 0;
+            }
             for (int r = 0; r < ruleCount[o]; r++) {
                 int row = rowOf(o, r);
                 if (rules[row] == kind && testsHold(row)) {
@@ -805,9 +810,14 @@ public final class CourtProgress {
             }
         }
 
+        /** A byte of the latest text; NONE outside of it. */
+        private int byteAt(int i) {
+            return i >= 0 && i < length ? bytes[i] : NONE;
+        }
+
         private int skipBlanks(int from) {
             int i = from;
-            while (i < length && bytes[i] == ' ') {
+            while (i < length && byteAt(i) == ' ') {
                 i++;
             }
             return i;
@@ -839,13 +849,13 @@ public final class CourtProgress {
             if (isDigit(from)) {
                 return behind - from > LONGEST_NUMBER ? NO_TOKEN : numberOf(from, behind);
             }
-            return isSign(bytes[from]) ? bytes[from] : NO_TOKEN;
+            return isSign(byteAt(from)) ? byteAt(from) : NO_TOKEN;
         }
 
         private int numberOf(int from, int behind) {
             int number = 0;
             for (int i = from; i < behind; i++) {
-                number = number * 10 + bytes[i] - '0';
+                number = number * 10 + byteAt(i) - '0';
             }
             return ZERO + number;
         }
@@ -869,7 +879,7 @@ public final class CourtProgress {
                 return false;
             }
             for (int i = 0; i < word.length(); i++) {
-                if (bytes[from + i] != word.charAt(i)) {
+                if (byteAt(from + i) != word.charAt(i)) {
                     return false;
                 }
             }
@@ -877,11 +887,11 @@ public final class CourtProgress {
         }
 
         private boolean isLetter(int i) {
-            return i >= 0 && i < length && bytes[i] >= 'a' && bytes[i] <= 'z';
+            return byteAt(i) >= 'a' && byteAt(i) <= 'z';
         }
 
         private boolean isDigit(int i) {
-            return i >= 0 && i < length && bytes[i] >= '0' && bytes[i] <= '9';
+            return byteAt(i) >= '0' && byteAt(i) <= '9';
         }
 
         private static boolean isSign(int sign) {
@@ -1083,6 +1093,9 @@ public final class CourtProgress {
         }
 
         int reasonAgainst(int p) {
+            if (!land.has(p)) {
+                return NONE;
+            }
             if (land.rooms[p] < court.size) {
                 return TOO_FEW_ROOMS;
             }
@@ -1097,7 +1110,10 @@ public final class CourtProgress {
 
         /** The least sum of a lodging at a place, or NONE. */
         int leastSum(int p) {
-            if (land.rooms[p] < court.size || court.allHorses() > land.stalls[p] || !isPossible(p, true)) {
+            if (!land.has(p) || land.rooms[p] < court.size || court.allHorses() > land.stalls[p]) {
+                return NONE;
+            }
+            if (!isPossible(p, true)) {
                 return NONE;
             }
             prepare(p, true, true);
@@ -1120,7 +1136,7 @@ public final class CourtProgress {
         }
 
         private void prepare(int p, boolean ranked, boolean weighed) {
-            rooms = land.rooms[p];
+            rooms = land.has(p) ? land.rooms[p] : 0;
             for (int h = 0; h < court.size; h++) {
                 weight[h] = weighed ? court.mouths[h] : 0;
                 open[h] = (1 << rooms) - 1;
@@ -1381,12 +1397,12 @@ public final class CourtProgress {
             }
             for (int p = 0; p < land.size; p++) {
                 for (int i = 0; i <= end; i++) {
-                    rowEnds[i * MAX_PLACES + p] = rowEnd(i, p);
+                    rowEnds[i * MAX_PLACES + p] = measuredEnd(i, p);
                 }
             }
         }
 
-        private int rowEnd(int from, int p) {
+        private int measuredEnd(int from, int p) {
             int left = land.supply(p);
             int i = from;
             while (i <= end && needs[i] <= left && mayBeAt(p, i)) {
@@ -1394,6 +1410,12 @@ public final class CourtProgress {
                 i++;
             }
             return i - 1;
+        }
+
+        /** The last day of a row that was measured; the day before its first one if there was none. */
+        private int rowEnd(int from, int p) {
+            boolean isMeasured = from >= 0 && from <= end && p >= 0 && p < land.size;
+            return isMeasured ? rowEnds[from * MAX_PLACES + p] : from - 1;
         }
 
         private boolean mayBeAt(int p, int i) {
@@ -1410,7 +1432,7 @@ public final class CourtProgress {
 
         /** Least hours of a row that began on a day, if it is left on a later one or not at all. */
         private int leastOnward(int began, int from, int p, int seen) {
-            int rowEnd = rowEnds[began * MAX_PLACES + p];
+            int rowEnd = rowEnd(began, p);
             if (rowEnd >= end) {
                 return 0;
             }
@@ -1424,6 +1446,9 @@ public final class CourtProgress {
         /** Least hours if the court leaves p on day i. */
         private int leastLeaving(int i, int p, int seen) {
             int slot = slotOf(i, p, seen);
+            if (slot == NONE) {
+                return NEVER;
+            }
             int leaving = known[slot] >> 8 & 255;
             if (leaving == UNKNOWN) {
                 leaving = NEVER;
@@ -1437,11 +1462,11 @@ public final class CourtProgress {
 
         /** Least hours if the court goes from p to q on day i; NEVER, or more, if that can't be below the bound. */
         private int leastBy(int i, int p, int q, int seen, int bound) {
-            if ((seen >> q & 1) == 1) {
+            if (i < 0 || i >= end || (seen >> q & 1) == 1) {
                 return NEVER;
             }
             int hours = land.hoursOn(p, q, muds[i]);
-            if (hours == 0 || hours >= bound || rowEnds[(i + 1) * MAX_PLACES + q] <= i) {
+            if (hours == 0 || hours >= bound || rowEnd(i + 1, q) <= i) {
                 return NEVER;
             }
             return hours + leastFrom(i + 1, q, seen | 1 << q);
@@ -1450,6 +1475,9 @@ public final class CourtProgress {
         /** Least hours if the court comes to p on day i. */
         private int leastFrom(int i, int p, int seen) {
             int slot = slotOf(i, p, seen);
+            if (slot == NONE) {
+                return NEVER;
+            }
             int coming = known[slot] & 255;
             if (coming == UNKNOWN) {
                 coming = leastOnward(i, i, p, seen);
@@ -1458,12 +1486,15 @@ public final class CourtProgress {
             return coming;
         }
 
-        /** Where it is known; what an earlier call left there is unknown now. */
+        /** Where it is known, or NONE; what an earlier call left there is unknown now. */
         private int slotOf(int i, int p, int seen) {
             // The first place is always seen, so its bit is left out.
             int below = seen & (1 << start) - 1;
             int others = below | seen >> start + 1 << start;
             int slot = (others * land.size + p) * SPAN + i;
+            if (slot < 0 || slot >= known.length) {
+                return NONE;
+            }
             if (known[slot] >>> 16 != mark) {
                 known[slot] = mark << 16 | UNKNOWN << 8 | UNKNOWN;
             }
