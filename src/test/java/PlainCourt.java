@@ -239,88 +239,126 @@ final class PlainCourt {
         return yes(ordinances.size() - 1);
     }
 
+    private List<Rule> read(String text) {
+        Reading reading = new Reading();
+        Matcher m = TOKEN.matcher(text);
+        int behind = 0;
+        while (fault == 0) {
+            m.region(behind, text.length()).lookingAt();
+            behind = m.end();
+            faultPlace = m.start(1);
+            if (m.group(1).isEmpty()) {
+                fault = faultPlace == text.length() && reading.mayEnd() ? 0 : 1;
+                return reading.rules;
+            }
+            fault = reading.take(m.group(1));
+        }
+        return reading.rules;
+    }
+
     /** What may stand next. */
     private enum Due { RULE, TEST, SIGN, LIMIT, AFTER_TEST, TERM, AFTER_NUMBER, FACTOR, AFTER_TERM }
 
-    private List<Rule> read(String text) {
-        List<Rule> rules = new ArrayList<>();
-        Due due = Due.RULE;
-        int position = 0;
-        int name = 0;
-        char sign = 0;
-        while (fault == 0) {
-            Matcher m = TOKEN.matcher(text).region(position, text.length());
-            m.lookingAt();
-            String token = m.group(1);
-            position = m.end();
-            faultPlace = m.start(1);
-            if (token.isEmpty()) {
-                boolean whole = faultPlace == text.length() && (due == Due.AFTER_NUMBER || due == Due.AFTER_TERM);
-                fault = whole ? 0 : 1;
-                return rules;
-            }
-            boolean word = Character.isLetter(token.charAt(0)) && token.length() < 9;
-            boolean number = Character.isDigit(token.charAt(0)) && token.length() < 4;
-            boolean verb = token.equals("eats") || token.equals("feeds");
-            boolean other = word && !verb && !token.equals("when") && !token.equals("and") && !NAMES.contains(token);
-            Rule rule = rules.isEmpty() ? null : rules.get(rules.size() - 1);
-            switch (due) {
-                case RULE -> {
-                    if (!verb && !token.equals("when")) {
-                        fault = 1;
-                    } else if (rules.size() == 12) {
-                        fault = 3;
-                    } else {
-                        rules.add(new Rule());
-                        rules.get(rules.size() - 1).horse = token.equals("feeds");
-                        due = verb ? Due.TERM : Due.TEST;
-                    }
-                }
-                case TEST -> {
-                    name = NAMES.indexOf(token);
-                    fault = other ? 2 : name < 0 ? 1 : rule.tests.size() == 4 ? 3 : 0;
-                    due = Due.SIGN;
-                }
-                case SIGN -> {
-                    sign = token.charAt(0);
-                    fault = "<>=".indexOf(sign) < 0 ? 1 : 0;
-                    due = Due.LIMIT;
-                }
-                case LIMIT -> {
-                    fault = number ? 0 : 1;
-                    if (number) {
-                        rule.tests.add(new Test(name, sign, Integer.parseInt(token)));
-                    }
-                    due = Due.AFTER_TEST;
-                }
-                case AFTER_TEST -> {
-                    fault = verb || token.equals("and") ? 0 : 1;
-                    rule.horse = token.equals("feeds");
-                    due = verb ? Due.TERM : Due.TEST;
-                }
-                case TERM -> {
-                    name = NAMES.indexOf(token);
-                    fault = other ? 2 : name < 0 && !number ? 1 : rule.terms.size() == 4 ? 3 : 0;
-                    if (fault == 0) {
-                        rule.terms.add(number ? new Term(Integer.parseInt(token), NONE) : new Term(1, name));
-                    }
-                    due = number ? Due.AFTER_NUMBER : Due.AFTER_TERM;
-                }
-                case FACTOR -> {
-                    name = NAMES.indexOf(token);
-                    fault = other ? 2 : name < 0 ? 1 : 0;
-                    Term number1 = rule.terms.remove(rule.terms.size() - 1);
-                    rule.terms.add(new Term(number1.factor, name));
-                    due = Due.AFTER_TERM;
-                }
-                case AFTER_NUMBER, AFTER_TERM -> {
-                    boolean times = token.equals("*") && due == Due.AFTER_NUMBER;
-                    fault = times || token.equals("+") || token.equals(";") ? 0 : 1;
-                    due = times ? Due.FACTOR : token.equals("+") ? Due.TERM : Due.RULE;
-                }
-            }
+    /** Goes from what may stand next to what may stand next, token by token. */
+    private static final class Reading {
+        final List<Rule> rules = new ArrayList<>();
+        private Rule rule = new Rule();
+        private Due due = Due.RULE;
+        private int name;
+        private char sign;
+
+        boolean mayEnd() {
+            return due == Due.AFTER_NUMBER || due == Due.AFTER_TERM;
         }
-        return rules;
+
+        /** The fault that the token is; 0 if it may stand there. */
+        int take(String token) {
+            boolean verb = token.equals("eats") || token.equals("feeds");
+            return switch (due) {
+                case RULE -> verb || token.equals("when") ? takeRule(token, verb) : 1;
+                case TEST -> takeTest(token);
+                case SIGN -> takeSign(token);
+                case LIMIT -> takeLimit(token);
+                case AFTER_TEST -> verb || token.equals("and") ? takeVerb(token, verb) : 1;
+                case TERM -> takeTerm(token);
+                case FACTOR -> takeFactor(token);
+                case AFTER_NUMBER, AFTER_TERM -> takeJoint(token);
+            };
+        }
+
+        private int takeRule(String token, boolean verb) {
+            if (rules.size() == 12) {
+                return 3;
+            }
+            rule = new Rule();
+            rules.add(rule);
+            return takeVerb(token, verb);
+        }
+
+        private int takeVerb(String token, boolean verb) {
+            rule.horse = token.equals("feeds");
+            due = verb ? Due.TERM : Due.TEST;
+            return 0;
+        }
+
+        private int takeTest(String token) {
+            name = NAMES.indexOf(token);
+            due = Due.SIGN;
+            return name < 0 ? noName(token) : rule.tests.size() == 4 ? 3 : 0;
+        }
+
+        private int takeSign(String token) {
+            sign = token.charAt(0);
+            due = Due.LIMIT;
+            return "<>=".indexOf(sign) < 0 ? 1 : 0;
+        }
+
+        private int takeLimit(String token) {
+            if (!isNumber(token)) {
+                return 1;
+            }
+            rule.tests.add(new Test(name, sign, Integer.parseInt(token)));
+            due = Due.AFTER_TEST;
+            return 0;
+        }
+
+        private int takeTerm(String token) {
+            name = NAMES.indexOf(token);
+            if (name < 0 && !isNumber(token)) {
+                return noName(token);
+            }
+            if (rule.terms.size() == 4) {
+                return 3;
+            }
+            rule.terms.add(new Term(name < 0 ? Integer.parseInt(token) : 1, name));
+            due = name < 0 ? Due.AFTER_NUMBER : Due.AFTER_TERM;
+            return 0;
+        }
+
+        private int takeFactor(String token) {
+            name = NAMES.indexOf(token);
+            if (name < 0) {
+                return noName(token);
+            }
+            Term number = rule.terms.remove(rule.terms.size() - 1);
+            rule.terms.add(new Term(number.factor, name));
+            due = Due.AFTER_TERM;
+            return 0;
+        }
+
+        private int takeJoint(String token) {
+            boolean times = token.equals("*") && due == Due.AFTER_NUMBER;
+            due = times ? Due.FACTOR : token.equals("+") ? Due.TERM : Due.RULE;
+            return times || token.equals("+") || token.equals(";") ? 0 : 1;
+        }
+
+        private static boolean isNumber(String token) {
+            return token.matches("[0-9]{1,3}");
+        }
+
+        private static int noName(String token) {
+            return token.matches("[a-z]{1,8}") && !token.matches("when|and|eats|feeds") ? 2 : 1;
+        }
     }
 
     int fault() {
